@@ -2054,13 +2054,13 @@ public final class SeaFire {
             int first = plan.first[row];
             switch (plan.word[row]) {
                 case YEAR: return age(empire, first);
-                case MAKE: return brew(empire, first);
+                case MAKE: return countMade(empire.brew(first), first);
                 case USE: return empire.spend();
                 case TEACH: return empire.instruct(first, plan.second[row], plan.third[row]);
                 case WRITE: return empire.writeDown(first);
                 case BURN: return empire.burnDown(first);
-                case CAPTURE: return seize(empire, first);
-                default: return empire.hands > 0 && seize(empire, draw(empire.hands));
+                case CAPTURE: return countGone(empire.seize(first));
+                default: return empire.hands > 0 && countGone(empire.seize(draw(empire.hands)));
             }
         }
 
@@ -2073,14 +2073,12 @@ public final class SeaFire {
             return true;
         }
 
-        private boolean brew(Empire empire, int many) {
-            boolean brewed = empire.brew(many);
+        private boolean countMade(boolean brewed, int many) {
             made += brewed ? many : 0;
             return brewed;
         }
 
-        private boolean seize(Empire empire, int hand) {
-            boolean seized = empire.seize(hand);
+        private boolean countGone(boolean seized) {
             gone += seized ? 1 : 0;
             return seized;
         }
