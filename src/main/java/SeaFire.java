@@ -2060,6 +2060,7 @@ public final class SeaFire {
                 case WRITE: return empire.writeDown(first);
                 case BURN: return empire.burnDown(first);
                 case CAPTURE: return countGone(empire.seize(first));
+                case ANY:
                 default: return empire.hands > 0 && countGone(empire.seize(draw(empire.hands)));
             }
         }

@@ -60,7 +60,12 @@ public final class BattlesTest {
         Bench.refused(x, "MISSING", x.battle(2, 99, 99, 99), 3);
         Bench.refused(x, "too few numbers", x.battle(1, 4, 99, 99), 4);
         Bench.refused(x, "too few numbers ahead of too many turns", x.battle(1, 13, 1, 1), 4);
-        Bench.refused(x, "too many turns", x.battle(0, 13, 1, 1), 5);
+        x.tray(3, 0, 13);
+        Bench.refused(x, "too many turns", x.battle(3, 13, 1, 1), 5);
+        Bench.due("twelve turns", x.battle(3, 12, 1, 0), true);
+        odds(x, 1, 1, 1, 1, 2);
+        x.write(3, 0, 17);
+        Bench.refused(x, "the first wind of 17", x.battle(3, 1, 1, 1), 5);
         Bench.refused(x, "n below 0", x.battle(1, -1, 1, 1), 5);
         Bench.refused(x, "13 JARS", x.battle(1, 3, 13, 1), 5);
         Bench.refused(x, "JARS below 0", x.battle(1, 3, -1, 1), 5);
@@ -78,6 +83,11 @@ public final class BattlesTest {
         Bench.fill(x, 0, 0, 8, 12, 4);
         Bench.due("the next is better", x.throwFirst(0, 2, 1, 1), 0);
         Bench.due("there is no next", x.throwFirst(0, 1, 1, 1), 1);
+        Bench.fill(x, 3, 0, 12, 8);
+        Bench.due("the next is worse", x.throwFirst(3, 2, 1, 1), 1);
+        x.write(3, 0, 0);
+        Bench.due("no wind now, and one JAR too many", x.throwFirst(3, 2, 2, 1), 0);
+        x.tray(3, 0, 0);
         Bench.due("one for each", x.throwFirst(0, 2, 2, 1), 1);
         Bench.due("no JAR", x.throwFirst(0, 2, 0, 1), 0);
         Bench.due("no ship", x.throwFirst(0, 2, 2, 0), 0);
@@ -89,7 +99,9 @@ public final class BattlesTest {
         Bench.due("no wind", x.throwFirst(2, 1, 1, 1), 0);
         Bench.refused(x, "n 0", x.throwFirst(0, 0, 1, 1), 5);
         Bench.refused(x, "no TRAY", x.throwFirst(-1, 0, 1, 1), 1);
-        Bench.refused(x, "MISSING", x.throwFirst(3, 0, 1, 1), 3);
+        Bench.refused(x, "too few", x.throwFirst(3, 1, 1, 1), 4);
+        SeaFire bare = new SeaFire();
+        Bench.refused(bare, "MISSING", bare.throwFirst(3, 0, 1, 1), 3);
         Bench.refused(x, "too few", x.throwFirst(0, 4, 1, 1), 4);
         Bench.refused(x, "13 JARS", x.throwFirst(0, 3, 13, 1), 5);
         Bench.refused(x, "13 ships", x.throwFirst(0, 3, 1, 13), 5);

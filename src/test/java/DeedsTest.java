@@ -112,6 +112,10 @@ public final class DeedsTest {
         rich.supply(1000, true);
         Bench.due("JARS are 9,999 at most", rich.make(999), 9999);
         Bench.due("store", rich.many(7), 1);
+        SeaFire now = Bench.of("part a fades 1;hand h age 1 knows a;");
+        now.supply(1, true);
+        Bench.due("WHOLE for now", now.make(1), 1);
+        Bench.due("so it can be USED", now.use(), 0);
         SeaFire none = new SeaFire();
         none.supply(5, true);
         Bench.refused(none, "no PARTS", none.make(1), 9);

@@ -87,6 +87,9 @@ public final class EnemyTest {
         Bench.refused(x, "no way", x.sure(1, 1), 8);
         Bench.fill(x, 1, 0, 2, 1);
         Bench.due("bob could: juice", x.sure(1, 1), 4);
+        SeaFire one = Bench.of("part a;part b;hand h age 1 knows a;");
+        Bench.fill(one, 0, 0, 1, 1);
+        Bench.due("a", one.sure(0, 1), 1);
     }
 
     private static void whomToAsk() {
@@ -97,6 +100,13 @@ public final class EnemyTest {
         Bench.fill(x, 1, 1, 1, 0, 2, 0);
         // Left: pump juice, heat juice, all. cid could by the first alone.
         Bench.due("ann, bob could not: cid", x.ask(1, 2), 4);
+        Bench.fill(x, 2, 1, 1, 0, 2, 0, 4, 0);
+        // Left: heat juice, all; nobody but ann with bob or cid could tell, and both could.
+        Bench.due("two ways: whoever it is, one of them is the greater", x.ask(2, 3), 1);
+        SeaFire all = Bench.of("part a;part b;hand h age 1 knows a;hand i age 1 knows b;");
+        Bench.fill(all, 0, 1, 1, 0);
+        // Left: b, both. By h none could, by i one, by both two.
+        Bench.due("i", all.ask(0, 1), 2);
         Bench.fill(x, 2, 1, 2, 1);
         Bench.refused(x, "one way", x.ask(2, 1), 8);
         Bench.fill(x, 2, 1, 8, 1);
@@ -127,6 +137,8 @@ public final class EnemyTest {
         x.write(2, 1, 0);
         refusedAll(x, 2, 2, 5);
         Bench.due("twenty twos", x.needed(0, 20), 7);
+        x.write(0, 40, 16);
+        Bench.due("the one behind them does not matter", x.needed(0, 20), 7);
         x.write(0, 0, 1L << 32);
         refusedAll(x, 0, 1, 5);
     }

@@ -85,6 +85,13 @@ public final class KnowersTest {
         Bench.due("he", dear.fewestSet(), 1);
         Bench.due("two are cheaper", dear.bribe(), 49);
         Bench.due("they", dear.bribeSet(), 6);
+        SeaFire all = Bench.of("part a;part b;hand h age 1 price 3 knows a;hand i age 1 price 4 knows b;");
+        Bench.due("all of them", all.fewestSet(), 3);
+        Bench.due("all of them", all.bribeSet(), 3);
+        SeaFire one = Bench.of("part a fades 1;hand h age 1 price 3 knows a;");
+        Bench.due("the one", one.fewestSet(), 1);
+        Bench.due("the one", one.bribeSet(), 1);
+        Bench.due("LOST", one.loses(1), 1);
         SeaFire none = Bench.of("hand h age 1;");
         Bench.refused(none, "no PARTS", none.fewest(), 8);
         Bench.refused(none, "no PARTS", none.bribe(), 8);
@@ -154,6 +161,7 @@ public final class KnowersTest {
         Bench.refused(lost, "a PART that nobody KNOWS stays at 0", lost.lesson(0), 8);
         SeaFire written = Bench.of("part a written;hand h age 1;");
         Bench.refused(written, "all is WRITTEN", written.lesson(0), 8);
+        Bench.due("KNOWN for now", Bench.of("part a fades 1;hand h age 1 knows a;hand i age 1;").lesson(0), 10);
         SeaFire dead = Bench.of("life 20;part a;hand g age 19;hand h age 1 knows a;hand i age 1;");
         Bench.due("the first HAND", dead.lesson(0), 0);
         dead.year(1);

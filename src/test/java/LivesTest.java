@@ -47,6 +47,8 @@ public final class LivesTest {
         Bench.due("five whens, three within", x.live(0), 8);
         Bench.due("the YEAR", x.many(6), 5);
         Bench.due("JARS", x.many(5), 0);
+        SeaFire now = Bench.of("part a fades 1;hand h age 1 knows a;", "when whole;when known a;year 2;end;end;");
+        Bench.due("for now", now.live(0), 3);
         SeaFire jars = Bench.of("jars 5;", "when jars<5;year 1;end;when jars<6;year 2;end;when jars>5;year 3;end;when jars>4;year 5;end;when jars=5;year 7;end;when jars=4;year 11;end;");
         Bench.due("live(0)", jars.live(0), 9);
         Bench.due("the YEAR", jars.many(6), 14);
@@ -188,6 +190,9 @@ public final class LivesTest {
         SeaFire written = Bench.of("part a written;part b;hand g age 1 knows b;", "year 20;");
         written.mean(0, 20);
         Bench.fraction(written, "both are KNOWN", 2, 1);
+        SeaFire now = Bench.of("part a fades 2;hand g age 1 knows a;", "year 1;");
+        now.mean(0, 1);
+        Bench.fraction(now, "KNOWN for now", 1, 1);
         written.year(20);
         written.mean(0, 20);
         Bench.fraction(written, "from as it is now", 1, 1);

@@ -8,6 +8,7 @@ public final class TextsTest {
         tapeHolds900();
         bytesComeHighestFirst();
         tapeIsEmptiedButFor5();
+        textEndsWhereItEnds();
         empireIsTaken();
         withoutBeingTold();
         anEmpireInPlaceOfAnother();
@@ -59,6 +60,19 @@ public final class TextsTest {
         Bench.due("feed behind empires", x.feed(0, 0, 0, 0, 0), 20);
     }
 
+    /** What lies on the tape behind the text is no part of it. */
+    private static void textEndsWhereItEnds() {
+        SeaFire x = new SeaFire();
+        Bench.tape(x, Bench.bytes("life 20;"));
+        Bench.refused(x, "life 2", x.empire(6), 10);
+        Bench.due("fault(0)", x.fault(0), 4);
+        Bench.due("fault(1)", x.fault(1), 5);
+        Bench.tape(x, Bench.bytes("lifes 20;"));
+        Bench.refused(x, "life", x.empire(4), 10);
+        Bench.due("fault(0)", x.fault(0), 2);
+        Bench.due("fault(1)", x.fault(1), 4);
+    }
+
     private static void empireIsTaken() {
         SeaFire x = Bench.of(Bench.CITY);
         Bench.due("status()", x.status(), 0);
@@ -76,6 +90,8 @@ public final class TextsTest {
         Bench.due("fades", tight.part(0, 0), 1);
         Bench.due("miles", tight.spring(0, 0), 999);
         Bench.due("knows", tight.hand(0, 2), 1);
+        Bench.due("jars 0", Bench.of("jars 0;").many(5), 0);
+        Bench.due("three WRITTEN", Bench.of("part a written;part b;part c written;part d written;").many(10), 13);
         SeaFire full = Bench.of(SIX);
         Bench.due("six PARTS", full.many(0), 6);
         Bench.due("eight HANDS", Bench.empire(full, EIGHT), 8);
@@ -172,6 +188,8 @@ public final class TextsTest {
         fault("border 20;jars 1;border 20;", 5, 17);
         fault("jars 1;jars !", 5, 7);
         fault("part p;part q;hand a age 3 knows p q p;", 5, 37);
+        fault(SIX + "hand h age 3 knows a b c d e f a;", 5, SIX.length() + 31);
+        fault(SIX + "hand h age 3 knows a b c d e f g;", 3, SIX.length() + 31);
         fault(SIX + "part g;", 6, SIX.length());
         fault(EIGHT + "hand i age 1;", 6, EIGHT.length());
         fault(FOUR + "spring e at 0 gives 0;", 6, FOUR.length());
@@ -288,6 +306,7 @@ public final class TextsTest {
             Bench.due("many(" + what + ")", x.many(what), many[what]);
             Bench.due("status()", x.status(), 0);
         }
+        Bench.due("WHOLE for now", Bench.of("part a fades 1;hand h age 1 knows a;").many(12), 1);
         Bench.refused(x, "many(13)", x.many(13), 5);
         Bench.refused(x, "many(-1)", x.many(-1), 5);
         Bench.due("rust", x.part(2, 3), 4);

@@ -73,9 +73,11 @@ public final class TraysTest {
         Bench.due("tray(1, 2, 0)", x.tray(1, 2, 0), true);
         Bench.refused(x, "read(1, 0)", x.read(1, 0), 4);
         x.tray(2, 0, 3);
+        x.write(2, 0, 5);
         x.write(2, 2, 5);
         x.tray(2, 0, 1);
         x.tray(2, 0, 3);
+        Bench.due("all 0 again: read(2, 0)", x.read(2, 0), 0);
         Bench.due("all 0 again: read(2, 2)", x.read(2, 2), 0);
     }
 
@@ -150,6 +152,8 @@ public final class TraysTest {
         Bench.refused(x, "pour(0, 9, 2, 9, -1)", x.pour(0, 9, 2, 9, -1), 6);
         Bench.refused(x, "pour(0, 1, 2, 0, 3)", x.pour(0, 1, 2, 0, 3), 4);
         Bench.refused(x, "pour(0, 0, 2, 0, 3)", x.pour(0, 0, 2, 0, 3), 4);
+        Bench.refused(x, "pour(0, 2, 2, 0, 2)", x.pour(0, 2, 2, 0, 2), 4);
+        Bench.refused(x, "pour(0, 0, 2, 1, 2)", x.pour(0, 0, 2, 1, 2), 4);
         Bench.refused(x, "pour(0, -1, 2, 0, 1)", x.pour(0, -1, 2, 0, 1), 4);
         Bench.refused(x, "pour(0, 0, 2, -1, 1)", x.pour(0, 0, 2, -1, 1), 4);
         Bench.refused(x, "pour with a sum beyond an int", x.pour(0, Integer.MAX_VALUE, 2, 0, Integer.MAX_VALUE), 4);
