@@ -1684,15 +1684,12 @@ public final class SeaFire {
 
     /** Reads the text of an EMPIRE. */
     private static final class EmpireReader {
-        private boolean lifeTold;
-        private boolean borderTold;
-        private boolean jarsTold;
+        // Bit w stands if the word w, of those that may stand once, has stood.
+        private int told = 0;
 
         boolean parse(Reader in, Empire out) {
             out.clear();
-            lifeTold = false;
-            borderTold = false;
-            jarsTold = false;
+            told = 0;
             // What is told takes a byte at least.
             for (int i = 0; i <= in.length && !in.atEnd(); i++) {
                 if (!parseThing(in, out) || !in.takeSign(';')) {
@@ -1704,9 +1701,9 @@ public final class SeaFire {
 
         private boolean parseThing(Reader in, Empire out) {
             switch (in.keyword) {
-                case LIFE: return parseLife(in, out);
-                case BORDER: return parseBorder(in, out);
-                case JARS: return parseJars(in, out);
+                case LIFE: return parseOnce(in, out, 10, 99);
+                case BORDER: return parseOnce(in, out, 0, 999);
+                case JARS: return parseOnce(in, out, 0, MOST_JARS);
                 case PART: return parsePart(in, out);
                 case HAND: return parseHand(in, out);
                 case SPRING: return parseSpring(in, out);
@@ -1714,39 +1711,20 @@ public final class SeaFire {
             }
         }
 
-        private boolean parseLife(Reader in, Empire out) {
-            if (lifeTold) {
+        private boolean parseOnce(Reader in, Empire out, int least, int most) {
+            int word = in.keyword;
+            if ((told >> word & 1) == 1) {
                 return in.fail(TOLD_TWICE);
             }
-            lifeTold = true;
-            if (!in.takeWordAndNumber(LIFE, 10, 99)) {
+            told |= 1 << word;
+            if (!in.takeWordAndNumber(word, least, most)) {
                 return false;
             }
-            out.life = in.number;
-            return true;
-        }
-
-        private boolean parseBorder(Reader in, Empire out) {
-            if (borderTold) {
-                return in.fail(TOLD_TWICE);
+            switch (word) {
+                case LIFE: out.life = in.number; break;
+                case BORDER: out.border = in.number; break;
+                default: out.jars = in.number; break;
             }
-            borderTold = true;
-            if (!in.takeWordAndNumber(BORDER, 0, 999)) {
-                return false;
-            }
-            out.border = in.number;
-            return true;
-        }
-
-        private boolean parseJars(Reader in, Empire out) {
-            if (jarsTold) {
-                return in.fail(TOLD_TWICE);
-            }
-            jarsTold = true;
-            if (!in.takeWordAndNumber(JARS, 0, MOST_JARS)) {
-                return false;
-            }
-            out.jars = in.number;
             return true;
         }
 
