@@ -9,8 +9,10 @@ import java.util.Random;
 
 /** Drawn runs of calls on the class and on the Model: each answer, STATUS and FRACTION must agree. */
 public final class AgainstModelTest {
-    private static final int RUNS = 700;
-    private static final int CALLS = 500;
+    private static final int RUNS = 4000;
+    // What an object answers behind its 512th call is free; the longest move of a run takes some hundred.
+    private static final int LAST_CALL = 512;
+    private static final int LAST_MOVE = LAST_CALL - 120;
     private static final String[] QUESTIONS = {
         "many", "part", "hand", "spring", "knowers", "knownBy", "sells", "loses", "fewest", "fewestSet", "bribe",
         "bribeSet", "frail", "frailPart", "safe", "lesson", "lostIn", "wholeFor", "knownIn", "storeIn", "pace",
@@ -27,7 +29,7 @@ public final class AgainstModelTest {
     private final SeaFire own = new SeaFire();
     private final Model model = new Model();
     private final int run;
-    private final List<String> told = new ArrayList<>();
+    private int used = 0;
     private static final Map<String, Method> OWN = methods(SeaFire.class);
     private static final Map<String, Method> MODEL = methods(Model.class);
     private static int wrongRuns = 0;
@@ -69,14 +71,16 @@ public final class AgainstModelTest {
             status = ((Model.Refusal) e.getCause()).status;
             want = method.getReturnType() == boolean.class ? 0 : -1;
         }
-        told.add(name + Arrays.toString(args) + " = " + got);
         boolean hasStatus = !name.equals("feed") && !name.equals("fault");
+        boolean fractionToo = name.equals("battle") || name.equals("mean") || draws.nextInt(10) == 0;
+        used += 1 + (hasStatus ? 1 : 0) + (fractionToo ? 2 : 0);
         SEEN.merge(name + (hasStatus ? " " + status : ""), 1, Integer::sum);
         boolean fine = got == want && (!hasStatus || own.status() == status)
-                && own.top() == model.top.longValueExact() && own.bottom() == model.bottom.longValueExact();
+                && (!fractionToo || own.top() == model.top.longValueExact() && own.bottom() == model.bottom.longValueExact())
+                && used <= LAST_CALL;
         if (!fine) {
-            System.out.println("run " + run + ": " + name + Arrays.toString(args) + " answered " + got + " with STATUS "
-                    + own.status() + ", FRACTION " + own.top() + " by " + own.bottom() + "; due is " + want
+            System.out.println("run " + run + ", call " + used + ": " + name + Arrays.toString(args) + " answered " + got
+                    + " with STATUS " + own.status() + ", FRACTION " + own.top() + " by " + own.bottom() + "; due is " + want
                     + " with STATUS " + status + ", FRACTION " + model.top + " by " + model.bottom);
         }
         return fine;
@@ -317,7 +321,7 @@ public final class AgainstModelTest {
 
     private void go() throws Exception {
         boolean fine = newEmpire() && newPlan() && newTray(true);
-        while (fine && told.size() < CALLS) {
+        while (fine && used <= LAST_MOVE) {
             fine = oneMove();
         }
         if (!fine) {
