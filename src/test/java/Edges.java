@@ -107,13 +107,16 @@ final class Edges {
         refused(call, start, asked, Integer.MAX_VALUE, above);
     }
 
-    /** All that an object answers, and what comes of it when it lives on and is taken back. */
-    private static long[] probe(SeaFire x) {
+    /** All that an object answers, but for the tape and what fault() tells. */
+    static long[] kept(SeaFire x) {
         List<Long> row = new ArrayList<>();
+        keptTo(x, row);
+        return row.stream().mapToLong(v -> v).toArray();
+    }
+
+    private static void keptTo(SeaFire x, List<Long> row) {
         row.add(x.top());
         row.add(x.bottom());
-        row.add((long) x.fault(0));
-        row.add((long) x.fault(1));
         for (int t = 0; t < 4; t++) {
             for (int place : PLACES) {
                 row.add(x.read(t, place));
@@ -121,6 +124,14 @@ final class Edges {
             }
         }
         state(x, row);
+    }
+
+    /** All that an object answers, and what comes of it when it lives on and is taken back. */
+    private static long[] probe(SeaFire x) {
+        List<Long> row = new ArrayList<>();
+        row.add((long) x.fault(0));
+        row.add((long) x.fault(1));
+        keptTo(x, row);
         row.add((long) x.feed(0x20202020, 0x20202020, 0x20202020, 0x20202020, 0x20202020));
         row.add((long) x.live(7));
         state(x, row);

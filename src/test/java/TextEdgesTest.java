@@ -15,6 +15,7 @@ public final class TextEdgesTest {
         theHighestOfEachIntFirst();
         theFirstBytesOfTheTape();
         theTapeIsEmptyThen();
+        nothingButTheTapeAndTheFault();
         atMost900Bytes();
         bytesThatBeginTokens();
         bytesBetweenTokens();
@@ -113,6 +114,25 @@ public final class TextEdgesTest {
             Bench.refused(x, "a FAULT", plan ? x.empires(1) : x.empire(1), 10);
             Bench.due("behind 10", x.feed(0, 0, 0, 0, 0), 20);
             Bench.due("fault(0)", x.fault(0), 1);
+        }
+    }
+
+    /** "changes nothing but STATUS (but empire(), empires() with 10 the tape, and what fault() tells)". */
+    private static void nothingButTheTapeAndTheFault() {
+        String[] faulty = {"!", "life 20;border 5;jars 5;part a written;hand b age 5 knows a;spring c at 5 gives 5", "year 5;year 5;stop",
+            "loop 2;loop 2;use;"};
+        for (String text : faulty) {
+            for (boolean plan : new boolean[] {false, true}) {
+                SeaFire x = Edges.rich();
+                x.empires(0);
+                Bench.empires(x, "use;year 1;any;");
+                long[] before = Edges.kept(x);
+                Bench.refused(x, text, plan ? Bench.empires(x, text) : Bench.empire(x, text), 10);
+                Bench.due("all else of " + text, Arrays.equals(before, Edges.kept(x)), true);
+                Bench.due("the EMPIRES, too", x.live(0), 3);
+                Bench.due("and MARKS", x.back(), 1);
+                Bench.due("and MARKS", x.back(), 0);
+            }
         }
     }
 
