@@ -319,8 +319,15 @@ public final class AgainstModelTest {
         return call(name, arguments(name));
     }
 
+    /** Two lives of 5,980 YEARS, the second not to its end: what is drawn then stands about YEAR 9,999. */
+    private boolean lateYears() throws Exception {
+        String text = "loop 99;year 20;year 20;year 20;end;";
+        return feed(text) && call("empires", text.length()) && call("live", upTo(9999)) && call("live", upTo(9999))
+                && call("lived", 0) && call("lived", 1) && call("year", 1 + upTo(25));
+    }
+
     private void go() throws Exception {
-        boolean fine = newEmpire() && newPlan() && newTray(true);
+        boolean fine = newEmpire() && (draws.nextInt(10) > 0 || lateYears()) && newPlan() && newTray(true);
         while (fine && used <= LAST_MOVE) {
             fine = oneMove();
         }

@@ -1,4 +1,6 @@
 import java.io.IOException;
+import java.lang.reflect.Field;
+import java.lang.reflect.Modifier;
 import java.nio.file.Files;
 import java.nio.file.Path;
 import java.util.ArrayDeque;
@@ -12,11 +14,14 @@ import java.util.Set;
 import java.util.regex.Matcher;
 import java.util.regex.Pattern;
 
-/** Rules of LANGUAGE.md that can be seen in the source's letters. */
+/** Rules of LANGUAGE.md that can be seen in the source's letters, or in the compiled classes' fields. */
 public final class LanguageTest {
     private static final int MOST_LINES = 60;
     private static final int MOST_PARAMETERS = 7;
     private static final int MOST_DEEP = 8;
+    private static final int MOST_FIELDS = 20;
+    private static final Set<Class<?>> CONSTANTS = Set.of(int.class, long.class, boolean.class, char.class, String.class,
+            int[].class, long[].class, char[].class, byte[].class);
     private static final Pattern METHOD = Pattern.compile(
             "^ +(?:(?:public|private|static|final) )*[A-Za-z\\[\\]]+ ([a-zA-Z]+)\\(([^)]*)\\) \\{$");
     private static final Pattern CALL = Pattern.compile("\\b(?!if|for|while|switch|return)([a-z][A-Za-z]*)\\(");
@@ -28,6 +33,10 @@ public final class LanguageTest {
         noForbiddenWords(bare);
         classesAndMethods(bare);
         callsGoEightDeep(bare);
+        fieldsKeepTheRules(SeaFire.class);
+        for (Class<?> inside : SeaFire.class.getDeclaredClasses()) {
+            fieldsKeepTheRules(inside);
+        }
         Bench.end();
     }
 
@@ -85,6 +94,26 @@ public final class LanguageTest {
         }
         Bench.due("more than twelve classes: " + count, count > 12, false);
         Bench.due("methods are seen", bodies(bare).size() > 100, true);
+    }
+
+    /** Rules 3, 5 and 11: no static state, one dimension but for numbers, some twenty fields a class. */
+    private static void fieldsKeepTheRules(Class<?> c) {
+        int fields = 0;
+        for (Field f : c.getDeclaredFields()) {
+            boolean constant = Modifier.isStatic(f.getModifiers());
+            fields += constant ? 0 : 1;
+            Bench.due(f + " is a constant", !constant || Modifier.isFinal(f.getModifiers()) && CONSTANTS.contains(f.getType()), true);
+            Class<?> element = f.getType();
+            int dimensions = 0;
+            while (element.isArray()) {
+                element = element.getComponentType();
+                dimensions++;
+            }
+            Bench.due(f + " has too many dimensions", dimensions > (element.isPrimitive() ? 2 : 1), false);
+            boolean own = element.getNestHost() == SeaFire.class;
+            Bench.due(f + " is of a type of the language", element.isPrimitive() || own || element == String.class, true);
+        }
+        Bench.due(c + " has too many fields: " + fields, fields > MOST_FIELDS, false);
     }
 
     /** By names alone, the library's calls too: a name that two classes share counts with both its bodies. */
